@@ -181,36 +181,15 @@ public final class TestFinder {
             return c >= 'a' && c <= 'z';
         }
 
-        static boolean isCharacter(char c) {
-            return isLetter(c) || c >= '0' && c <= '9' || c == '_';
-        }
-
-        private static int digitOf(char c) {
-            if (isLetter(c)) {
+        /** 1 to 37, or 0 for a character that no NAME and no VALUE has. */
+        static int digitOf(char c) {
+            if (c >= 'a' && c <= 'z') {
                 return c - 'a' + 1;
             }
-            return c == '_' ? 37 : c - '0' + 27;
-        }
-
-        static long value(char[] text, int from, int to) {
-            if (from < 0 || to > text.length || from >= to || to - from > MOST_NAME_CHARACTERS) {
-                return WRONG;
+            if (c >= '0' && c <= '9') {
+                return c - '0' + 27;
             }
-            long code = 0;
-            for (int i = from; i < to; i++) {
-                if (!isCharacter(text[i])) {
-                    return WRONG;
-                }
-                code = code * BASE + digitOf(text[i]);
-            }
-            return code;
-        }
-
-        static long name(char[] text, int from, int to) {
-            if (from < 0 || from >= text.length || !isLetter(text[from])) {
-                return WRONG;
-            }
-            return value(text, from, to);
+            return c == '_' ? 37 : 0;
         }
 
         static int length(long code) {
@@ -261,8 +240,7 @@ public final class TestFinder {
             return i >= 0 && i < size ? codes[i] : Names.WRONG;
         }
 
-        void copy(NameRow other) {
-            size = 0;
+        void addAll(NameRow other) {
             for (int i = 0; i < other.size; i++) {
                 add(other.codes[i]);
             }
@@ -302,7 +280,6 @@ public final class TestFinder {
             sized = false;
             skipped = false;
             fails = false;
-            firstTest = 0;
             testCount = 1;
             tags.size = 0;
             parameters.size = 0;
@@ -428,11 +405,23 @@ public final class TestFinder {
         }
 
         long name(int i) {
-            return i >= 0 && i < count ? Names.name(text, starts[i], ends[i]) : Names.WRONG;
+            boolean named = i >= 0 && i < count && Names.isLetter(text[starts[i]]);
+            return named ? value(i) : Names.WRONG;
         }
 
         long value(int i) {
-            return i >= 0 && i < count ? Names.value(text, starts[i], ends[i]) : Names.WRONG;
+            if (i < 0 || i >= count || ends[i] - starts[i] > MOST_NAME_CHARACTERS) {
+                return Names.WRONG;
+            }
+            long code = 0;
+            for (int at = starts[i]; at < ends[i]; at++) {
+                int digit = Names.digitOf(text[at]);
+                if (digit == 0) {
+                    return Names.WRONG;
+                }
+                code = code * Names.BASE + digit;
+            }
+            return code;
         }
 
         /** A WORD that is one digit, or 0 if it is another. */
@@ -459,7 +448,6 @@ public final class TestFinder {
 
         int read(Tape tape) {
             script.become(tape);
-            suiteTags.size = 0;
             caseOpen = false;
             int from = 0;
             for (int line = 0; from < script.length; line++) {
@@ -491,10 +479,7 @@ public final class TestFinder {
             if (!caseOpen || script.caseCount < 1) {
                 return false;
             }
-            return acceptInCase(script.cases[script.caseCount - 1]);
-        }
-
-        private boolean acceptInCase(Case open) {
+            Case open = script.cases[script.caseCount - 1];
             if (words.beginWith("with")) {
                 return addParameter(open);
             }
@@ -527,7 +512,7 @@ public final class TestFinder {
             if (suite != NONE) {
                 open.suite = suite;
                 open.suiteName = script.suites.at(suite);
-                open.tags.copy(suiteTags);
+                open.tags.addAll(suiteTags);
             }
             script.caseCount++;
             script.testCount++;
@@ -611,8 +596,8 @@ public final class TestFinder {
     private static final class TestName {
         private static final int PARTS = 2 + 2 * MOST_PARAMETERS;
 
-        /** Each part has one mark at most behind it, and one [ stands besides. */
-        final char[] cells = new char[PARTS * (MOST_NAME_CHARACTERS + 1) + 1];
+        /** Behind each part, in a NAME with all of them, stands one mark. */
+        final char[] cells = new char[PARTS * (MOST_NAME_CHARACTERS + 1)];
         int size;
 
         void write(Case its, int test) {
@@ -796,17 +781,20 @@ public final class TestFinder {
 
         private boolean not(int open) {
             char mark = next();
-            if (mark != '!' && mark != '(') {
-                return atom(mark);
+            switch (mark) {
+                case '!': return open < MOST_OPEN && negated(open + 1);
+                case '(': return open < MOST_OPEN && enclosed(open + 1);
+                case '?': return plain(mark);
+                case '~': return plain(mark);
+                case '<': return less();
+                case '@': return named(mark);
+                case '=': return named(mark);
+                default: return tagOrValue();
             }
-            if (open >= MOST_OPEN) {
-                return false;
-            }
-            place++;
-            return mark == '!' ? negated(open + 1) : enclosed(open + 1);
         }
 
         private boolean negated(int open) {
+            place++;
             if (!not(open)) {
                 return false;
             }
@@ -815,6 +803,7 @@ public final class TestFinder {
         }
 
         private boolean enclosed(int open) {
+            place++;
             if (!either(open) || next() != ')') {
                 return false;
             }
@@ -822,32 +811,21 @@ public final class TestFinder {
             return true;
         }
 
-        private boolean atom(char mark) {
-            switch (mark) {
-                case '?':
-                case '~':
-                    place++;
-                    steps.add(mark, Names.WRONG, 0);
-                    return true;
-                case '@':
-                case '=':
-                    place++;
-                    return named(mark);
-                case '<':
-                    place++;
-                    return less();
-                default:
-                    return tagOrValue();
-            }
+        private boolean plain(char mark) {
+            place++;
+            steps.add(mark, Names.WRONG, 0);
+            return true;
         }
 
         private boolean named(char mark) {
-            long name = name();
+            place++;
+            long name = word(true);
             steps.add(mark, name, 0);
             return name != Names.WRONG;
         }
 
         private boolean less() {
+            place++;
             char digit = next();
             if (digit < '1' || digit > '9') {
                 return false;
@@ -858,7 +836,7 @@ public final class TestFinder {
         }
 
         private boolean tagOrValue() {
-            long name = name();
+            long name = word(true);
             if (name == Names.WRONG) {
                 return false;
             }
@@ -867,24 +845,24 @@ public final class TestFinder {
                 return true;
             }
             place++;
-            long value = value();
+            long value = word(false);
             steps.add(':', name, value);
             return value != Names.WRONG;
         }
 
-        private long name() {
-            return Names.isLetter(next()) ? value() : Names.WRONG;
-        }
-
         /** A thirteenth character is left where it is: nothing that may follow begins with it. */
-        private long value() {
-            next();
-            int start = place;
-            while (place < length && place - start < MOST_NAME_CHARACTERS
-                    && Names.isCharacter(text[place])) {
+        private long word(boolean isName) {
+            char first = next();
+            if (isName && !Names.isLetter(first)) {
+                return Names.WRONG;
+            }
+            int end = Math.min(length, place + MOST_NAME_CHARACTERS);
+            long code = 0;
+            while (place < end && Names.digitOf(text[place]) != 0) {
+                code = code * Names.BASE + Names.digitOf(text[place]);
                 place++;
             }
-            return Names.value(text, start, place);
+            return code;
         }
 
         /** The next character that is no blank, which place comes to; 0 at the FILTER's end. */

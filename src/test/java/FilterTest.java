@@ -8,6 +8,7 @@ public final class FilterTest {
         operators();
         blanks();
         stays();
+        manyOnOneObject();
         illPlaces();
         open();
         length();
@@ -105,6 +106,22 @@ public final class FilterTest {
         Checks.due("none pass", 0, y.passing());
         Checks.due("a script", -1, Checks.script(y, "case a"));
         Checks.due("the filter goes", 1, y.passing());
+    }
+
+    private static void manyOnOneObject() {
+        TestFinder x = Checks.finder(SCRIPT);
+        for (int i = 0; i < 40; i++) {
+            Checks.due("filter", -1, Checks.filter(x, "(t1|?)&!~"));
+            Checks.due("passing", 1, x.passing());
+            Checks.due("an ill filter", 2, Checks.filter(x, "~|"));
+            Checks.due("filter", -1, Checks.filter(x, "!?"));
+            Checks.due("passing", 6, x.passing());
+        }
+        for (String end : new String[] {"|", "&", "(", "!", "@", "=", "<", "a:"}) {
+            String whole = end.equals("<") ? "<1" : end.equals("(") ? "(a)" : end + "a";
+            Checks.due("a whole one", end.length() < 2 && "|&".contains(end) ? 0 : -1, Checks.filter(x, whole));
+            Checks.due("what stood behind does not count", "|&".contains(end) ? 0 : end.length(), Checks.filter(x, end));
+        }
     }
 
     private static void illPlaces() {

@@ -3,6 +3,7 @@ public final class ScriptTest {
     public static void main(String[] args) {
         becomesTheScript();
         illLeavesNothing();
+        beginsAnew();
         lines();
         names();
         numbersOfWords();
@@ -51,6 +52,22 @@ public final class ScriptTest {
         Checks.due("the filter is gone", 2, x.passing());
     }
 
+    /** A script does not go on where the last one ended. */
+    private static void beginsAnew() {
+        for (String last : new String[] {"suite s\ntag t\ncase a", "suite s\ntag t", "case a", "suite s\ntag t\nx"}) {
+            for (String next : new String[] {"tag u", "with p 1", "size 1", "skip x", "fails"}) {
+                TestFinder x = new TestFinder();
+                Checks.script(x, last);
+                Checks.due(next + " behind " + last, 0, Checks.script(x, next));
+            }
+            TestFinder x = new TestFinder();
+            Checks.script(x, last);
+            Checks.due("the same again", last.endsWith("x") ? 2 : -1, Checks.script(x, last));
+            Checks.due("another", -1, Checks.script(x, "case a\nsuite s\ncase a"));
+            Checks.due("no tags are left", 0, x.test(0, 5) + x.test(1, 5));
+        }
+    }
+
     private static void lines() {
         Checks.dueScript(-1, "\n\n  \n#\n # case A\n#case A\n   #");
         Checks.dueScript(-1, "  case   a  \n   tag  b   c ");
@@ -67,6 +84,9 @@ public final class ScriptTest {
         Checks.dueScript(-1, "case a\nskip" + " x".repeat(594));
         Checks.dueScript(0, "x ".repeat(600));
         Checks.dueScript(-1, "# ".repeat(600));
+        Checks.dueScript(-1, "#".repeat(1193) + "\ncase a");
+        Checks.dueScript(-1, "#".repeat(1182) + "\ncase abcdefghijkl");
+        Checks.dueScript(1, "#".repeat(1181) + "\ncase abcdefghijklm");
     }
 
     private static void names() {
@@ -167,6 +187,7 @@ public final class ScriptTest {
     private static void limits() {
         Checks.dueScript(-1, "case a\nwith p 1 2 3 4 5 6\nwith q 1 2 3 4");
         Checks.dueScript(2, "case a\nwith p 1 2 3 4 5 6\nwith q 1 2 3 4 5");
+        Checks.dueScript(2, "case a\nwith p 1 2 3 4 5\nwith q 1 2 3 4 5");
         Checks.dueScript(-1, "case a\nwith p 1 2\nwith q 1 2\nwith r 1 2\nwith s 1 2 3");
         Checks.dueScript(4, "case a\nwith p 1 2\nwith q 1 2\nwith r 1 2\nwith s 1 2 3 4");
         Checks.dueScript(3, "case a\nwith p 1 2 3 4 5 6\nwith q 1 2 3 4\nwith r 1 2");

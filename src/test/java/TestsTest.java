@@ -112,7 +112,7 @@ public final class TestsTest {
         }
         String[] none = {"get", "on", "onee", "net", "net.", "net.get", "net.get[host=a]", "net.one",
             "net.get[host=a,port=81]", "net.get[port=80,host=a]", "net.get[host=a,port=80", " one",
-            "one ", "put", "net.get[host=a,port=80]]", "ONE", "one\n", ".one", "one[]", "empty.put"};
+            "one ", "put", "net.get[host=a,port=80]]", "ONE", "one\n", ".one", "ane", "one[]", "empty.put"};
         for (String name : none) {
             Checks.due("find of " + name, -1, Checks.find(x, name));
         }
