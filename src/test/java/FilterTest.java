@@ -9,6 +9,7 @@ public final class FilterTest {
         blanks();
         stays();
         manyOnOneObject();
+        nothingBehindTheEndCounts();
         illPlaces();
         open();
         length();
@@ -110,13 +111,19 @@ public final class FilterTest {
 
     private static void manyOnOneObject() {
         TestFinder x = Checks.finder(SCRIPT);
-        for (int i = 0; i < 40; i++) {
+        for (int i = 0; i < 36; i++) {
             Checks.due("filter", -1, Checks.filter(x, "(t1|?)&!~"));
             Checks.due("passing", 1, x.passing());
             Checks.due("an ill filter", 2, Checks.filter(x, "~|"));
             Checks.due("filter", -1, Checks.filter(x, "!?"));
             Checks.due("passing", 6, x.passing());
+            Checks.due("filter", -1, Checks.filter(x, "~"));
+            Checks.due("passing", 5, x.passing());
         }
+    }
+
+    private static void nothingBehindTheEndCounts() {
+        TestFinder x = new TestFinder();
         for (String end : new String[] {"|", "&", "(", "!", "@", "=", "<", "a:"}) {
             String whole = end.equals("<") ? "<1" : end.equals("(") ? "(a)" : end + "a";
             Checks.due("a whole one", end.length() < 2 && "|&".contains(end) ? 0 : -1, Checks.filter(x, whole));
