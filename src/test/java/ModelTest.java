@@ -17,9 +17,11 @@ public final class ModelTest {
             new Run(seed).go();
         }
         System.out.println("scripts right " + Run.right + ", ill " + Run.ill + "; filters right "
-                + Run.filtersRight + ", ill " + Run.filtersIll);
-        Checks.due("enough of each kind", true,
-                Math.min(Math.min(Run.right, Run.ill), Math.min(Run.filtersRight, Run.filtersIll)) > 1000);
+                + Run.filtersRight + ", ill " + Run.filtersIll + "; found " + Run.found + ", not " + Run.notFound
+                + "; texts refused " + Run.refused);
+        int fewest = Math.min(Math.min(Run.right, Run.ill), Math.min(Run.filtersRight, Run.filtersIll));
+        fewest = Math.min(fewest, Math.min(Math.min(Run.found, Run.notFound), Run.refused));
+        Checks.due("enough of each kind", true, fewest > 1000);
         Checks.end();
     }
 
@@ -402,20 +404,26 @@ public final class ModelTest {
         }
     }
 
-    /** One object's life. */
+    /** One object's life: the 512 calls that the document promises, and no more. */
     private static final class Run {
         static int right;
         static int ill;
         static int filtersRight;
         static int filtersIll;
+        static int found;
+        static int notFound;
+        static int refused;
 
         private static final String[] NAMES = {"a", "b", "c", "d_", "e1", "abcdefghijkl", "zzzzzzzzzzzz"};
         private static final String[] VALUES = {"1", "2", "3", "_", "a", "0bcdefghijkl", "999999999999", "____________"};
         private static final String[] MARKS = {"&", "|", "!", "(", ")", " ", "@", "=", ":", "<", "?", "~", "\n", "A", "7"};
+        private static final int[] EDGES = {Integer.MIN_VALUE, -2, -1, 0, 1, 9, 10, 119, 120, 121, Integer.MAX_VALUE};
 
         private final int seed;
         private final Random random;
         private final TestFinder x = new TestFinder();
+        private int left = 512;
+        private String tape = "";
         private ScriptModel script = new ScriptModel("");
         private FilterModel filter = null;
 
@@ -425,15 +433,126 @@ public final class ModelTest {
         }
 
         void go() {
-            for (int turn = 0; turn < 3; turn++) {
-                readScript();
-                compare();
-                for (int i = 0; i < 4; i++) {
+            readScript();
+            while (left > 0) {
+                int turn = random.nextInt(64);
+                if (turn == 0 || turn < 6 && script.tests.isEmpty()) {
+                    readScript();
+                } else if (turn < 6) {
                     readFilter();
-                    comparePassing();
+                } else if (turn < 9) {
+                    find();
+                } else if (turn < 11) {
+                    text(random.nextLong());
+                } else {
+                    ask();
                 }
-                find();
             }
+        }
+
+        private void due(String call, long want, long got) {
+            left--;
+            Checks.due("seed " + seed + ", with " + left + " calls left, " + call, want, got);
+        }
+
+        private void due(String call, boolean want, boolean got) {
+            due(call, want ? 1L : 0L, got ? 1L : 0L);
+        }
+
+        /** A word, of which the class takes all characters or none. */
+        private void text(long w) {
+            StringBuilder coming = new StringBuilder();
+            for (int shift = 56; shift >= 0; shift -= 8) {
+                char c = (char) (w >> shift & 255);
+                coming.append(c == 0 ? "" : "" + c);
+            }
+            boolean may = coming.chars().allMatch(c -> c == 10 || c >= 32 && c <= 126) && tape.length() + coming.length() <= 1200;
+            due("text(" + w + ")", may, x.text(w));
+            tape += may ? coming.toString() : "";
+            refused += may ? 0 : 1;
+        }
+
+        /** False if there are too few calls left for the whole text and the call behind it. */
+        private boolean put(String text) {
+            if (left < text.length() / 3 + 2) {
+                ask();
+                return false;
+            }
+            for (int from = 0; from < text.length();) {
+                int many = Math.min(text.length() - from, 4 + random.nextInt(5));
+                long w = 0;
+                int spare = 8 - many;
+                for (int i = 0; i < many; i++) {
+                    int zeros = chance(3) ? random.nextInt(spare + 1) : 0;
+                    spare -= zeros;
+                    w = w << 8 * zeros << 8 | text.charAt(from + i);
+                }
+                text(w << 8 * random.nextInt(spare + 1));
+                from += many;
+            }
+            return true;
+        }
+
+        private int number(int most) {
+            return chance(8) ? EDGES[random.nextInt(EDGES.length)] : random.nextInt(most + 3) - 1;
+        }
+
+        private void ask() {
+            int test = number(script.tests.size());
+            boolean is = test >= 0 && test < script.tests.size();
+            Item t = is ? script.tests.get(test) : null;
+            int k;
+            switch (random.nextInt(8)) {
+                case 0:
+                    k = number(3);
+                    int[] counts = {script.suites.size(), script.cases.size(), script.tests.size()};
+                    due("count(" + k + ")", k >= 0 && k < 3 ? counts[k] : -1, x.count(k));
+                    break;
+                case 1:
+                    k = number(9);
+                    due("test(" + test + ", " + k + ")", is ? told(t, k) : -1, x.test(test, k));
+                    break;
+                case 2:
+                    k = number(is ? t.name.length() : 9);
+                    due("letter(" + test + ", " + k + ")", is ? at(t.name, k) : -1, x.letter(test, k));
+                    break;
+                case 3:
+                    k = number(is && t.reason != null ? t.reason.length() : 9);
+                    due("reason(" + test + ", " + k + ")", is && t.reason != null ? at(t.reason, k) : -1, x.reason(test, k));
+                    break;
+                case 4:
+                    boolean passed = chance(2);
+                    int want = !is ? -1 : t.reason != null ? 3 : t.fails ? passed ? 4 : 1 : passed ? 0 : 2;
+                    due("judge(" + test + ", " + passed + ")", want, x.judge(test, passed));
+                    break;
+                case 5:
+                    due("passing()", passing(), x.passing());
+                    break;
+                default:
+                    due("passes(" + test + ")", is && passes(t), x.passes(test));
+            }
+        }
+
+        private static int told(Item t, int what) {
+            int[] all = {t.caseNumber, t.suiteNumber, t.size, t.reason == null ? 0 : 1, t.fails ? 1 : 0,
+                t.tags.size(), t.given.size(), t.name.length(), t.line};
+            return what >= 0 && what < all.length ? all[what] : -1;
+        }
+
+        private static int at(String text, int k) {
+            return k >= 0 && k < text.length() ? text.charAt(k) : -1;
+        }
+
+        private boolean passes(Item t) {
+            return filter == null || filter.passes(t);
+        }
+
+        private int passing() {
+            int passing = 0;
+            for (Item t : script.tests) {
+                passing += passes(t) ? 1 : 0;
+            }
+            return passing;
         }
 
         private String one(String[] of) {
@@ -503,35 +622,15 @@ public final class ModelTest {
         }
 
         private void readScript() {
-            String text = randomScript();
-            script = new ScriptModel(text);
+            if (!put(randomScript())) {
+                return;
+            }
+            script = new ScriptModel(tape);
             filter = null;
-            if (script.ill < 0) {
-                right++;
-            } else {
-                ill++;
-            }
-            Checks.due("seed " + seed + ", script() of\n" + text + "\n", script.ill, Checks.script(x, text));
-        }
-
-        private void compare() {
-            Checks.due("suites", script.suites.size(), x.count(0));
-            Checks.due("cases", script.cases.size(), x.count(1));
-            Checks.due("tests", script.tests.size(), x.count(2));
-            for (int i = 0; i < script.tests.size(); i++) {
-                Item t = script.tests.get(i);
-                int[] want = {t.caseNumber, t.suiteNumber, t.size, t.reason == null ? 0 : 1, t.fails ? 1 : 0,
-                    t.tags.size(), t.given.size(), t.name.length(), t.line, -1};
-                for (int what = 0; what < want.length; what++) {
-                    Checks.due("seed " + seed + ", test(" + i + ", " + what + ")", want[what], x.test(i, what));
-                }
-                Checks.due("seed " + seed + ", name " + i, t.name, Checks.name(x, i));
-                Checks.due("seed " + seed + ", reason " + i, t.reason == null ? "" : t.reason, Checks.reason(x, i));
-                int passed = t.reason != null ? 3 : t.fails ? 4 : 0;
-                int failed = t.reason != null ? 3 : t.fails ? 1 : 2;
-                Checks.due("seed " + seed + ", judge " + i, passed, x.judge(i, true));
-                Checks.due("seed " + seed + ", judge " + i, failed, x.judge(i, false));
-            }
+            right += script.ill < 0 ? 1 : 0;
+            ill += script.ill < 0 ? 0 : 1;
+            due("script() of\n" + tape + "\n", script.ill, x.script());
+            tape = "";
         }
 
         private String atom() {
@@ -580,40 +679,36 @@ public final class ModelTest {
         }
 
         private void readFilter() {
-            String text = randomFilter();
-            FilterModel model = new FilterModel(text);
-            if (model.ill < 0) {
-                filtersRight++;
-                filter = model;
-            } else {
-                filtersIll++;
+            if (!put(randomFilter())) {
+                return;
             }
-            Checks.due("seed " + seed + ", filter() of " + text, model.ill, Checks.filter(x, text));
-        }
-
-        private void comparePassing() {
-            int passing = 0;
-            for (int i = 0; i < script.tests.size(); i++) {
-                boolean want = filter == null || filter.passes(script.tests.get(i));
-                passing += want ? 1 : 0;
-                Checks.due("seed " + seed + ", passes(" + i + ")", want, x.passes(i));
-            }
-            Checks.due("seed " + seed + ", passing()", passing, x.passing());
+            FilterModel model = new FilterModel(tape);
+            filter = model.ill < 0 ? model : filter;
+            filtersRight += model.ill < 0 ? 1 : 0;
+            filtersIll += model.ill < 0 ? 0 : 1;
+            due("filter() of '" + tape + "'", model.ill, x.filter());
+            tape = "";
         }
 
         private void find() {
-            for (int i = 0; i < script.tests.size(); i += 1 + random.nextInt(9)) {
-                StringBuilder name = new StringBuilder(script.tests.get(i).name);
-                int want = i;
-                if (chance(3)) {
-                    name.deleteCharAt(random.nextInt(name.length()));
-                    want = -1;
-                    for (int j = 0; j < script.tests.size(); j++) {
-                        want = script.tests.get(j).name.contentEquals(name) ? j : want;
-                    }
-                }
-                Checks.due("seed " + seed + ", find() of " + name, want, Checks.find(x, name.toString()));
+            StringBuilder name = new StringBuilder(name());
+            if (!script.tests.isEmpty()) {
+                name = new StringBuilder(script.tests.get(random.nextInt(script.tests.size())).name);
             }
+            if (chance(3)) {
+                name.deleteCharAt(random.nextInt(name.length()));
+            }
+            if (!put(name.toString())) {
+                return;
+            }
+            int want = -1;
+            for (int i = 0; i < script.tests.size(); i++) {
+                want = script.tests.get(i).name.equals(tape) ? i : want;
+            }
+            found += want < 0 ? 0 : 1;
+            notFound += want < 0 ? 1 : 0;
+            due("find() of '" + tape + "'", want, x.find());
+            tape = "";
         }
     }
 }

@@ -1,59 +1,92 @@
-/** Promises 3 and 4: which scripts are right, at which line others are not, and the counts. */
+/** Promises 3 and 4: what a script leaves behind it, right or ill, and the counts. */
 public final class ScriptTest {
     public static void main(String[] args) {
         becomesTheScript();
+        anEmptyTape();
+        theTapeIsEmptyThen();
         illLeavesNothing();
+        theFilterGoes();
         beginsAnew();
-        lines();
-        names();
-        numbersOfWords();
-        places();
-        twice();
-        tags();
-        parameters();
-        limits();
+        nothingComesOver();
+        counts();
+        anotherWhat();
         Checks.end();
     }
 
-    private static void dueCounts(TestFinder x, int suites, int cases, int tests) {
-        Checks.due("count(0)", suites, x.count(0));
-        Checks.due("count(1)", cases, x.count(1));
-        Checks.due("count(2)", tests, x.count(2));
-    }
-
     private static void becomesTheScript() {
+        Checks.sentence("The TAPE becomes the SCRIPT ..: NONE, TESTS being those of it");
         TestFinder x = Checks.finder("case a\nsuite s\ncase a\nwith p 1 2\nwith q 1 2 3\nsuite t");
-        dueCounts(x, 2, 2, 7);
-        for (int what : new int[] {-1, 3, 4, Integer.MAX_VALUE, Integer.MIN_VALUE}) {
-            Checks.due("count(" + what + ")", -1, x.count(what));
-        }
-        Checks.due("an empty one", -1, x.script());
-        dueCounts(x, 0, 0, 0);
+        Checks.dueCounts(x, 2, 2, 7);
         Checks.due("a second one", -1, Checks.script(x, "case b"));
-        dueCounts(x, 0, 1, 1);
-        Checks.due("test(0, 6)", 0, x.test(0, 6));
-        Checks.due("test(0, 5)", 0, x.test(0, 5));
+        Checks.dueCounts(x, 0, 1, 1);
+        Checks.dueTold(x, 0, 0, -1, 1, 0, 0, 0, 0, 1, 0, -1);
+        Checks.due("its name", "b", Checks.name(x, 0));
     }
 
-    private static void illLeavesNothing() {
-        TestFinder x = Checks.finder("suite s\ncase a\nskip x\ncase b");
-        Checks.due("filter", -1, Checks.filter(x, "?"));
-        Checks.due("passing", 1, x.passing());
-        Checks.due("an ill one", 2, Checks.script(x, "suite s\ncase a\nwrong"));
-        dueCounts(x, 0, 0, 0);
+    private static void anEmptyTape() {
+        Checks.sentence("The TAPE becomes the SCRIPT ..: NONE, TESTS being those of it");
+        TestFinder x = Checks.finder("suite s\ncase a\ncase b");
+        Checks.due("an empty one", -1, x.script());
+        Checks.dueCounts(x, 0, 0, 0);
         Checks.due("test", -1, x.test(0, 0));
         Checks.due("passing", 0, x.passing());
-        Checks.due("the tape is empty, the filter gone", -1, Checks.script(x, "case a\ncase b"));
-        Checks.due("passing", 2, x.passing());
-        Checks.due("nothing is left of the case", 0, x.test(0, 3));
-        Checks.due("filter", -1, Checks.filter(x, "?"));
-        Checks.due("passing", 0, x.passing());
-        Checks.due("a right one", -1, Checks.script(x, "case a\ncase b"));
-        Checks.due("the filter is gone", 2, x.passing());
+        Checks.due("of zeros alone", true, x.text(0));
+        Checks.due("an empty one again", -1, x.script());
     }
 
-    /** A script does not go on where the last one ended. */
+    private static void theTapeIsEmptyThen() {
+        Checks.sentence("The TAPE becomes the SCRIPT, and is empty then");
+        for (String script : new String[] {"case a", "wrong", "case a\nwrong", "#"}) {
+            TestFinder x = new TestFinder();
+            Checks.script(x, script);
+            Checks.due("filter of nothing, behind " + script, 0, x.filter());
+            Checks.script(x, script);
+            Checks.due("script of nothing, behind " + script, -1, x.script());
+            Checks.dueCounts(x, 0, 0, 0);
+        }
+    }
+
+    /** Also if all but its last line is right. */
+    private static void illLeavesNothing() {
+        Checks.sentence("or the LINE at which it is ILL (there are no SUITES, no CASES and no TESTS then)");
+        for (String ill : new String[] {"wrong", "suite s\ncase a\nwith p 1 2\nskip x\nwrong"}) {
+            TestFinder x = Checks.finder("suite s\ncase a\nskip x\ncase b");
+            Checks.due("an ill one", ill.length() < 6 ? 0 : 4, Checks.script(x, ill));
+            Checks.dueCounts(x, 0, 0, 0);
+            for (int what = 0; what <= 8; what++) {
+                Checks.due("test(0, " + what + ")", -1, x.test(0, what));
+            }
+            Checks.due("letter", -1, x.letter(0, 0));
+            Checks.due("reason", -1, x.reason(0, 0));
+            Checks.due("judge", -1, x.judge(0, true));
+            Checks.due("passes", false, x.passes(0));
+            Checks.due("passing", 0, x.passing());
+            Checks.due("find", -1, Checks.find(x, "s.a"));
+            Checks.due("a right one", -1, Checks.script(x, "case a\ncase b"));
+            Checks.dueCounts(x, 0, 2, 2);
+            Checks.dueTold(x, 0, 0, -1, 1, 0, 0, 0, 0, 1, 0);
+        }
+    }
+
+    private static void theFilterGoes() {
+        Checks.sentence("The FILTER goes");
+        for (String script : new String[] {"case a\ncase b", "", "wrong"}) {
+            TestFinder x = Checks.finder("case a\ncase b", "?");
+            Checks.due("passing", 0, x.passing());
+            Checks.script(x, script);
+            Checks.due("passing", script.length() > 5 ? 2 : 0, x.passing());
+            Checks.due("passes", script.length() > 5, x.passes(1));
+            Checks.due("one more script", -1, Checks.script(x, "case c"));
+            Checks.due("passing", 1, x.passing());
+        }
+        TestFinder x = new TestFinder();
+        Checks.due("a filter before there are tests", -1, Checks.filter(x, "?"));
+        Checks.due("script", -1, Checks.script(x, "case a"));
+        Checks.due("passing", 1, x.passing());
+    }
+
     private static void beginsAnew() {
+        Checks.sentence("tag where there is neither a SUITE nor a CASE; with, size, skip, fails where there is no CASE");
         for (String last : new String[] {"suite s\ntag t\ncase a", "suite s\ntag t", "case a", "suite s\ntag t\nx"}) {
             for (String next : new String[] {"tag u", "with p 1", "size 1", "skip x", "fails"}) {
                 TestFinder x = new TestFinder();
@@ -68,156 +101,41 @@ public final class ScriptTest {
         }
     }
 
-    private static void lines() {
-        Checks.dueScript(-1, "\n\n  \n#\n # case A\n#case A\n   #");
-        Checks.dueScript(-1, "  case   a  \n   tag  b   c ");
-        Checks.dueScript(-1, "case a\n");
-        Checks.dueScript(5, "\n\n#x\n \ncase a\nx");
-        Checks.dueScript(0, "Case a");
-        Checks.dueScript(0, "cases a");
-        Checks.dueScript(0, "cas a");
-        Checks.dueScript(0, "case# a");
-        Checks.dueScript(0, "!");
-        Checks.dueScript(1199, "\n".repeat(1199) + "x");
-        Checks.dueScript(-1, "\n".repeat(1200));
-        Checks.dueScript(0, "x" + "\n".repeat(1199));
-        Checks.dueScript(-1, "case a\nskip" + " x".repeat(594));
-        Checks.dueScript(0, "x ".repeat(600));
-        Checks.dueScript(-1, "# ".repeat(600));
-        Checks.dueScript(-1, "#".repeat(1193) + "\ncase a");
-        Checks.dueScript(-1, "#".repeat(1182) + "\ncase abcdefghijkl");
-        Checks.dueScript(1, "#".repeat(1181) + "\ncase abcdefghijklm");
-    }
-
-    private static void names() {
-        for (String right : new String[] {"a", "z", "a_", "a0", "z9", "abcdefghijkl", "zzzzzzzzzzzz"}) {
-            Checks.dueScript(-1, "case " + right);
-            Checks.dueScript(-1, "suite " + right);
-            Checks.dueScript(-1, "case a\ntag " + right);
-            Checks.dueScript(-1, "case a\nwith " + right + " 1");
-            Checks.dueScript(-1, "case a\nwith p " + right);
-        }
-        for (String value : new String[] {"0", "9", "_", "0a", "_a", "9bcdefghijkl", "____________"}) {
-            Checks.dueScript(0, "case " + value);
-            Checks.dueScript(0, "suite " + value);
-            Checks.dueScript(1, "case a\ntag " + value);
-            Checks.dueScript(1, "case a\nwith " + value + " 1");
-            Checks.dueScript(-1, "case a\nwith p " + value);
-        }
-        for (String wrong : new String[] {"A", "aB", "a-b", "a.b", "abcdefghijklm", "a#", "`", "{", "a/", "a:", "a,"}) {
-            Checks.dueScript(0, "case " + wrong);
-            Checks.dueScript(0, "suite " + wrong);
-            Checks.dueScript(1, "case a\ntag b " + wrong);
-            Checks.dueScript(1, "case a\nwith " + wrong + " 1");
-            Checks.dueScript(1, "case a\nwith p 1 " + wrong);
-        }
-        for (int digit = 1; digit <= 9; digit++) {
-            TestFinder x = Checks.finder("case a\nsize " + digit);
-            Checks.due("size", digit, x.test(0, 2));
-        }
-        for (String wrong : new String[] {"0", "10", "01", "a", "-1", "1.", ":", "/"}) {
-            Checks.dueScript(1, "case a\nsize " + wrong);
+    /** All that a script can be full of is free again for the next one. */
+    private static void nothingComesOver() {
+        Checks.sentence("The TAPE becomes the SCRIPT ..: NONE, TESTS being those of it");
+        String cases = Checks.many(40, "case c", "\n");
+        String suites = Checks.many(10, "suite s", "\n") + "tag a b c d e f g h\ncase a\nwith p 1\nwith q 1\n"
+                + "with r 1\nwith s 1\nsize 2\nskip x\nfails";
+        for (String full : new String[] {cases, suites, Checks.fullScript()}) {
+            TestFinder x = Checks.finder(full);
+            Checks.due("the same again", -1, Checks.script(x, full));
+            Checks.due("and ill behind", full.split("\n").length, Checks.script(x, full + "\nwrong")
+                    - (full.endsWith("\n") ? 1 : 0));
+            Checks.due("and again", -1, Checks.script(x, full));
         }
     }
 
-    private static void numbersOfWords() {
-        for (String wrong : new String[] {"case", "case a b", "case a #", "suite", "suite a b"}) {
-            Checks.dueScript(0, wrong);
-        }
-        for (String wrong : new String[] {"tag", "with", "with p", "size", "size 1 2", "skip", "fails a", "fails fails"}) {
-            Checks.dueScript(1, "case a\n" + wrong);
-        }
-        Checks.dueScript(1, "suite a\ntag");
+    private static void counts() {
+        Checks.sentence("How many SUITES (what 0), CASES (1), TESTS (2) there are");
+        Checks.dueCounts(Checks.finder("# no\n"), 0, 0, 0);
+        Checks.dueCounts(Checks.finder("suite s"), 1, 0, 0);
+        Checks.dueCounts(Checks.finder("case s"), 0, 1, 1);
+        Checks.dueCounts(Checks.finder(Checks.many(10, "suite s", "\n")), 10, 0, 0);
+        Checks.dueCounts(Checks.finder(Checks.many(10, "suite s", "\ncase a\ncase b\ncase c\ncase d\n")), 10, 40, 40);
+        Checks.dueCounts(Checks.finder(Checks.many(40, "case c", "\nwith p 1 2 3\n")), 0, 40, 120);
+        Checks.dueCounts(Checks.finder(Checks.fullScript()), 0, 5, 120);
     }
 
-    private static void places() {
-        Checks.dueScript(0, "tag a");
-        Checks.dueScript(-1, "case a\ntag a");
-        Checks.dueScript(-1, "suite a\ntag a");
-        for (String inCase : new String[] {"with p 1", "size 1", "skip x", "fails"}) {
-            Checks.dueScript(0, inCase);
-            Checks.dueScript(1, "suite s\n" + inCase);
-            Checks.dueScript(2, "case a\nsuite s\n" + inCase);
-            Checks.dueScript(3, "suite r\ncase a\nsuite s\n" + inCase);
-            Checks.dueScript(-1, "case a\n" + inCase);
-            Checks.dueScript(-1, "suite s\ncase a\n" + inCase);
+    private static void anotherWhat() {
+        Checks.sentence("NONE for another what");
+        TestFinder x = Checks.finder("suite s\ncase a");
+        for (int what : Checks.FAR) {
+            Checks.due("count(" + what + ")", -1, x.count(what));
         }
-    }
-
-    private static void twice() {
-        Checks.dueScript(2, "case a\nsize 1\nsize 1");
-        Checks.dueScript(2, "case a\nskip x\nskip y");
-        Checks.dueScript(2, "case a\nfails\nfails");
-        Checks.dueScript(-1, "case a\nsize 1\nskip x\nfails\ncase b\nsize 1\nskip x\nfails");
-        Checks.dueScript(2, "suite a\nsuite b\nsuite a");
-        Checks.dueScript(2, "case a\ncase b\ncase a");
-        Checks.dueScript(3, "suite s\ncase a\ncase b\ncase a");
-        Checks.dueScript(-1, "case a\nsuite s\ncase a\nsuite t\ncase a\nsuite a\ncase s");
-    }
-
-    private static void tags() {
-        Checks.dueScript(1, "case a\ntag b b");
-        Checks.dueScript(2, "case a\ntag b\ntag c b");
-        Checks.dueScript(1, "suite s\ntag b b");
-        Checks.dueScript(2, "suite s\ntag b\ntag c b");
-        Checks.dueScript(3, "suite s\ntag b\ncase a\ntag b");
-        Checks.dueScript(-1, "suite s\ntag b\ncase a\ntag c\ncase d\ntag c\nsuite t\ntag b c\ncase a");
-        Checks.dueScript(-1, "suite s\ntag b\nsuite t\ncase a\ntag b");
-        Checks.dueScript(-1, "case a\ntag a b c d e f g h");
-        Checks.dueScript(1, "case a\ntag a b c d e f g h i");
-        Checks.dueScript(2, "case a\ntag a b c d e f g h\ntag i");
-        Checks.dueScript(-1, "suite s\ntag a b c d e f g h\ncase a");
-        Checks.dueScript(2, "suite s\ntag a b c d\ntag e f g h i");
-        Checks.dueScript(3, "suite s\ntag a b c d e f g h\ncase a\ntag i");
-        Checks.dueScript(-1, "suite s\ntag a b c d e f g\ncase a\ntag h\ncase b\ntag h");
-        Checks.dueScript(4, "suite s\ntag a b c d e f g\ncase a\ntag h\ntag i");
-    }
-
-    private static void parameters() {
-        Checks.dueScript(2, "case a\nwith p 1\nwith p 2");
-        Checks.dueScript(-1, "case a\nwith p 1\ncase b\nwith p 1");
-        Checks.dueScript(-1, "case a\nwith p 1\nwith q 1\nwith r 1\nwith s 1");
-        Checks.dueScript(5, "case a\nwith p 1\nwith q 1\nwith r 1\nwith s 1\nwith t 1");
-        Checks.dueScript(1, "case a\nwith p 1 2 1");
-        Checks.dueScript(-1, "case a\nwith p 1 2\nwith q 1 2 01 _1");
-        Checks.dueScript(-1, "case a\nwith p 1 2 3 4 5 6");
-        Checks.dueScript(1, "case a\nwith p 1 2 3 4 5 6 7");
-    }
-
-    private static void limits() {
-        Checks.dueScript(-1, "case a\nwith p 1 2 3 4 5 6\nwith q 1 2 3 4");
-        Checks.dueScript(2, "case a\nwith p 1 2 3 4 5 6\nwith q 1 2 3 4 5");
-        Checks.dueScript(2, "case a\nwith p 1 2 3 4 5\nwith q 1 2 3 4 5");
-        Checks.dueScript(-1, "case a\nwith p 1 2\nwith q 1 2\nwith r 1 2\nwith s 1 2 3");
-        Checks.dueScript(4, "case a\nwith p 1 2\nwith q 1 2\nwith r 1 2\nwith s 1 2 3 4");
-        Checks.dueScript(3, "case a\nwith p 1 2 3 4 5 6\nwith q 1 2 3 4\nwith r 1 2");
-
-        String full = "";
-        for (int i = 0; i < 5; i++) {
-            full += "case c" + i + "\nwith p 1 2 3 4 5 6\nwith q 1 2 3 4\n";
+        for (int what : new int[] {3, 4, 256, 65536, 1 << 30}) {
+            Checks.due("count(" + what + ")", -1, x.count(what));
         }
-        Checks.due("120 tests", 120, Checks.finder(full).count(2));
-        Checks.dueScript(15, full + "case d");
-        String almost = full.replace("with p 1 2 3 4 5 6\nwith q 1 2 3 4\ncase c1", "with p 1 2 3 4 5\nwith q 1 2 3 4\ncase c1");
-        Checks.due("119 tests", 119, Checks.finder(almost + "case d\nwith p 1 2 3\ntag t").count(2));
-        Checks.due("120 tests", 120, Checks.finder(almost + "case d\nwith p 1 2 3\ncase e").count(2));
-        Checks.dueScript(18, almost + "case d\nwith p 1 2 3\ncase e\ncase f");
-        Checks.dueScript(16, almost + "case d\nwith p 1 2 3 4 5");
-        Checks.dueScript(18, almost + "case d\nwith p 1 2 3\ncase e\nwith p 1 2");
-
-        String cases = "";
-        for (int i = 0; i < 40; i++) {
-            cases += "case c" + i + "\n";
-        }
-        Checks.due("40 cases", 40, Checks.finder(cases).count(1));
-        Checks.dueScript(40, cases + "case d");
-        Checks.dueScript(41, cases + "suite d\ncase d");
-
-        String suites = "";
-        for (int i = 0; i < 10; i++) {
-            suites += "suite s" + i + "\n";
-        }
-        Checks.due("10 suites", 10, Checks.finder(suites + "case a").count(0));
-        Checks.dueScript(10, suites + "suite t");
+        Checks.dueCounts(x, 1, 1, 1);
     }
 }
