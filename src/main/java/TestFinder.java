@@ -450,7 +450,7 @@ public final class TestFinder {
             script.become(tape);
             caseOpen = false;
             int from = 0;
-            for (int line = 0; from < script.length; line++) {
+            for (int line = 0; line < MOST_CHARACTERS && from < script.length; line++) {
                 int to = script.lineEnd(from);
                 words.cut(from, to);
                 if (!accept(line)) {

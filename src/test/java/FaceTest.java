@@ -4,7 +4,7 @@ import java.lang.reflect.Method;
 import java.lang.reflect.Modifier;
 import java.util.TreeSet;
 
-/** The public face is the document's, and nothing more can be seen. */
+/** The public face is the document's, nothing more can be seen, and the classes inside are as they may be. */
 public final class FaceTest {
     public static void main(String[] args) {
         TreeSet<String> seen = new TreeSet<>();
@@ -40,6 +40,37 @@ public final class FaceTest {
         Checks.due("the face", want.toString(), seen.toString());
         Checks.due("final", true, Modifier.isFinal(TestFinder.class.getModifiers()));
         Checks.due("NONE", -1, TestFinder.NONE);
+        Checks.due("no package", "", TestFinder.class.getPackageName());
+        classesInside();
         Checks.end();
+    }
+
+    private static void classesInside() {
+        Checks.sentence("LANGUAGE.md, rules 1, 5 and 11");
+        Class<?>[] inside = TestFinder.class.getDeclaredClasses();
+        Checks.due("at most some twelve classes", true, 1 + inside.length <= 12);
+        for (Class<?> c : inside) {
+            int modifiers = c.getModifiers();
+            String name = c.getSimpleName();
+            Checks.due(name + " static", true, Modifier.isStatic(modifiers));
+            Checks.due(name + " seen", false, Modifier.isPublic(modifiers) || Modifier.isProtected(modifiers));
+            for (Field f : c.getDeclaredFields()) {
+                boolean state = Modifier.isStatic(f.getModifiers()) && !Modifier.isFinal(f.getModifiers());
+                Checks.due(f + " is static state", false, state);
+            }
+            for (Method m : c.getDeclaredMethods()) {
+                Checks.due(m + " has a name of the face", false, isOfTheFace(m.getName()));
+                Checks.due(m + " has more than seven parameters", false, m.getParameterCount() > 7);
+            }
+        }
+    }
+
+    private static boolean isOfTheFace(String name) {
+        for (Method m : TestFinder.class.getDeclaredMethods()) {
+            if (Modifier.isPublic(m.getModifiers()) && m.getName().equals(name)) {
+                return true;
+            }
+        }
+        return false;
     }
 }

@@ -25,6 +25,7 @@ public final class TestsTest {
         order();
         orderOfAllTables();
         names();
+        namesStay();
         letters();
         longestName();
         reasons();
@@ -164,6 +165,23 @@ public final class TestsTest {
         for (int test = 0; test < NAMES.length; test++) {
             Checks.due("name", NAMES[test], Checks.name(x, test));
             Checks.due("its length", NAMES[test].length(), x.test(test, 7));
+        }
+    }
+
+    private static void namesStay() {
+        Checks.sentence("names that stay the same whatever else comes");
+        String before = "suite aa\ntag slow t\ncase get\nwith host b a\nsize 9\n";
+        String behind = "\ncase put\nfails\nsuite bb\ncase get\nwith port 80\n";
+        String own = "suite net\ncase get\nwith host a b";
+        String[] comes = {own, before + own, own + behind, before + own + behind,
+            own + "\ntag io\nskip why\nsize 2\nfails", "# x\n\n" + own.replace("net\n", "net\ntag slow\n\n"),
+            own.replace("net\n", "net\ncase first\nwith host a b c\n"), own + " c"};
+        TestFinder x = new TestFinder();
+        for (String script : comes) {
+            Checks.due("script", -1, Checks.script(x, script));
+            int first = Checks.find(x, "net.get[host=a]");
+            Checks.due("found in\n" + script, true, first != -1);
+            Checks.due("the other", first + 1, Checks.find(x, "net.get[host=b]"));
         }
     }
 
